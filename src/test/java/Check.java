@@ -1,0 +1,60 @@
+/** Counts the answers of one test class that are not as due. */
+final class Check {
+    static final Class<?> OUT_OF_BOUNDS = IndexOutOfBoundsException.class;
+    static final Class<?> ARGUMENT = IllegalArgumentException.class;
+    static final Class<?> STATE = IllegalStateException.class;
+
+    private static int done = 0;
+    private static int wrong = 0;
+
+    interface Call {
+        int answer();
+    }
+
+    private Check() {
+    }
+
+    static void due(String what, int want, Call call) {
+        done++;
+        try {
+            int got = call.answer();
+            if (got != want) {
+                tellWrong(what + " answered " + got + ", due is " + want);
+            }
+        } catch (RuntimeException e) {
+            tellWrong(what + " threw " + e + ", due is " + want);
+        }
+    }
+
+    static void refuses(String what, Class<?> want, Call call) {
+        done++;
+        try {
+            int got = call.answer();
+            tellWrong(what + " answered " + got + ", due is " + want.getSimpleName());
+        } catch (RuntimeException e) {
+            // A class below it, such as the machine's own ArrayIndexOutOfBoundsException, is not due.
+            if (e.getClass() != want) {
+                tellWrong(what + " threw " + e + ", due is " + want.getSimpleName());
+            }
+        }
+    }
+
+    static void holds(String what, boolean is) {
+        done++;
+        if (!is) {
+            tellWrong(what);
+        }
+    }
+
+    private static void tellWrong(String line) {
+        wrong++;
+        System.out.println(line);
+    }
+
+    static void end() {
+        if (done == 0 || wrong > 0) {
+            System.out.println(wrong + " of " + done + " checks are wrong");
+            System.exit(1);
+        }
+    }
+}
