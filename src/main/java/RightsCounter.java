@@ -490,8 +490,8 @@ public final class RightsCounter {
         private final int[] unitsLeft = new int[MOST_RIGHTS];
         private int served;
 
-        // The search for a right with units left: a right that was reached from another one
-        // was reached because a need that has units of that other one could take its units instead.
+        // What a search leaves: a right is reached from another one by a need that has units
+        // of the other one and could take units of this one instead, or by the new need itself.
         private final int[] queue = new int[MOST_RIGHTS];
         private final int[] reachedFrom = new int[MOST_RIGHTS];
         private final int[] exchanger = new int[MOST_RIGHTS];
@@ -500,7 +500,6 @@ public final class RightsCounter {
 
         void start() {
             served = 0;
-            Arrays.fill(unitsLeft, 0);
         }
 
         void putUnits(int right, int units) {
@@ -530,11 +529,12 @@ public final class RightsCounter {
             return got;
         }
 
+        /** The right, reached by the fewest exchanges, that has units left; NONE if there is none. */
         private int searchUnitsLeft(int need) {
             queued = 0;
             reached = 0;
             reach(givers[need], NONE, need);
-            for (int next = 0; next < queued; next++) {
+            for (int next = 0; next < queued && next < MOST_RIGHTS; next++) {
                 int right = queue[next];
                 if (unitsLeft[right] > 0) {
                     return right;
@@ -560,6 +560,7 @@ public final class RightsCounter {
             }
         }
 
+        /** Gives units of the last right that was reached, by the exchanges on the way to it. */
         private int giveAlong(int need, int lastRight, int wanted) {
             int units = Math.min(wanted, unitsLeft[lastRight]);
             int right = lastRight;

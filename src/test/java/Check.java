@@ -35,8 +35,15 @@ final class Check {
             // A class below it, such as the machine's own ArrayIndexOutOfBoundsException, is not due.
             if (e.getClass() != want) {
                 tellWrong(what + " threw " + e + ", due is " + want.getSimpleName());
+            } else if (!isThrownByTheClass(e)) {
+                tellWrong(what + " let the library throw " + e);
             }
         }
+    }
+
+    private static boolean isThrownByTheClass(RuntimeException e) {
+        StackTraceElement[] trace = e.getStackTrace();
+        return trace.length > 0 && trace[0].getClassName().startsWith("RightsCounter");
     }
 
     static void holds(String what, boolean is) {

@@ -10,6 +10,9 @@ public final class GivingTest {
         stepsOfExchanges();
         longStepsOfExchanges();
         exchangeMovesOnlyWhatIsThere();
+        exchangeIsNoWiderThanItsNarrowestStep();
+        exchangedUnitsAreExchangedAgain();
+        unitsGotInTwoStepsAreExchangedTogether();
         thoseAheadKeepWhatTheyGot();
         rightsGiveByVersionAndSpan();
         getsRefuses();
@@ -106,6 +109,32 @@ public final class GivingTest {
         dueGets("17: with one right more", x, 3, 9, 9);
     }
 
+    private static void exchangeIsNoWiderThanItsNarrowestStep() {
+        RightsCounter x = withMachines(6, 6, 9);
+        x.addRight(2 + 4, 9, 2, 0, 720);
+        x.addRight(1 + 2, 9, 10, 0, 720);
+        x.addRight(1, 9, 20, 0, 720);
+        dueGets("17: a narrow step, then a wide one", x, 6, 6, 2);
+    }
+
+    private static void exchangedUnitsAreExchangedAgain() {
+        RightsCounter x = withMachines(6, 4, 6);
+        x.addRight(1 + 2, 9, 4, 0, 720);
+        x.addRight(1 + 4, 9, 6, 0, 720);
+        x.addRight(1, 9, 6, 0, 720);
+        dueGets("17: the first gives way twice", x, 6, 4, 6);
+    }
+
+    private static void unitsGotInTwoStepsAreExchangedTogether() {
+        RightsCounter x = withMachines(4, 4, 8, 8, 8);
+        x.addRight(1 + 2 + 8 + 16, 9, 8, 0, 720);
+        x.addRight(4 + 8, 9, 8, 0, 720);
+        x.addRight(1, 9, 4, 0, 720);
+        x.addRight(2, 9, 4, 0, 720);
+        x.addRight(4, 9, 8, 0, 720);
+        dueGets("17: units of two that gave way", x, 4, 4, 8, 8, 8);
+    }
+
     private static void thoseAheadKeepWhatTheyGot() {
         RightsCounter x = withMachines(8, 8);
         x.addRight(3, 9, 8, 0, 720);
@@ -152,6 +181,11 @@ public final class GivingTest {
         x.addRight(4, 9, 7, 0, 720);
         Check.due("19: the first and the last of three", 9, () -> x.lackBySets(DAY));
         Check.due("18: the same", 9, () -> x.lack(DAY));
+        RightsCounter z = withMachines(1, 10, 9);
+        z.addRight(1, 9, 100, 0, 720);
+        z.addRight(2 + 4, 9, 7, 0, 720);
+        z.addRight(4, 9, 3, 0, 720);
+        Check.due("19: the set without the first", 9, () -> z.lackBySets(DAY));
         RightsCounter y = new RightsCounter();
         for (int machine = 0; machine < 2; machine++) {
             y.addMachine(9, NONE);

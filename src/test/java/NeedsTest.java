@@ -89,6 +89,12 @@ public final class NeedsTest {
         Check.due("20: none is spare", 0, () -> x.spare(0, 0, 1));
         Check.refuses("19: too many sets", Check.STATE, () -> x.lackBySets(0));
         Check.due("21: of one product", 8 * 64, () -> x.most(4, 23));
+        for (int machine = 0; machine < 8; machine++) {
+            x.setCores(machine, 1);
+        }
+        Check.due("18: forty of one unit each", 0, () -> x.lack(0));
+        Check.due("20: behind all forty", 1000 - 40, () -> x.spare(0, 4, 9));
+        Check.due("17: the last of forty, served again", 1, () -> x.gets(0, 39));
     }
 
     private static void demandIsOfTheCountingMachine() {
