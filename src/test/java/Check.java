@@ -1,3 +1,5 @@
+import java.util.List;
+
 /** Counts the answers of one test class that are not as due. */
 final class Check {
     static final Class<?> OUT_OF_BOUNDS = IndexOutOfBoundsException.class;
@@ -6,12 +8,22 @@ final class Check {
 
     private static int done = 0;
     private static int wrong = 0;
+    private static String subject = "";
 
     interface Call {
         int answer();
     }
 
     private Check() {
+    }
+
+    /** What the next checks are about; it is told ahead of each that is wrong. */
+    static void about(String what) {
+        subject = what + ": ";
+    }
+
+    static int done() {
+        return done;
     }
 
     static void due(String what, int want, Call call) {
@@ -53,9 +65,22 @@ final class Check {
         }
     }
 
+    /** Both lists are the same; else the first line that is not is told. */
+    static void same(String what, List<String> want, List<String> got) {
+        done++;
+        for (int line = 0; line < Math.max(want.size(), got.size()); line++) {
+            String due = line < want.size() ? want.get(line) : "nothing";
+            String is = line < got.size() ? got.get(line) : "nothing";
+            if (!due.equals(is)) {
+                tellWrong(what + ": " + is + ", due is " + due);
+                return;
+            }
+        }
+    }
+
     private static void tellWrong(String line) {
         wrong++;
-        System.out.println(line);
+        System.out.println(subject + line);
     }
 
     static void end() {

@@ -79,7 +79,7 @@ public final class ModelTest {
             case "addRight" -> newRight();
             case "upgrade" -> new int[] {from(0, 9), from(1, 9)};
             case "setUnits" -> new int[] {from(0, 9), random.nextInt(4) == 0 ? 0 : from(0, 60)};
-            case "addMachine" -> new int[] {from(1, 40), counter.machines() >= machines ? -2 : from(-1, machines - 2)};
+            case "addMachine" -> newMachine();
             case "setCores" -> new int[] {machine(), from(1, 64)};
             case "tellApart" -> new int[] {machine(), from(0, 1)};
             case "setCoresOfUnit" -> new int[] {product(), from(1, 16)};
@@ -94,6 +94,10 @@ public final class ModelTest {
         };
     }
 
+    private int[] newMachine() {
+        return new int[] {from(1, 40), modelSays("machines") >= machines ? -2 : from(-1, machines - 2)};
+    }
+
     private int[] newRight() {
         int first = random.nextBoolean() ? 0 : from(0, 300);
         int last = random.nextBoolean() ? 720 : Math.min(720, first + from(0, 200));
@@ -106,7 +110,12 @@ public final class ModelTest {
     }
 
     private int[] needOfDay(int day) {
-        return new int[] {day, random.nextInt(counter.needs(day) + 1)};
+        return new int[] {day, random.nextInt(modelSays("needs", day) + 1)};
+    }
+
+    /** The counter itself is not asked between the calls: it is promised for no more than these. */
+    private int modelSays(String name, int... a) {
+        return (Integer) model.answer(name, a);
     }
 
     private int ask(String name, int[] a) {
