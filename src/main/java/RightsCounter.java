@@ -503,7 +503,7 @@ public final class RightsCounter {
         }
 
         void putUnits(int right, int units) {
-            if (right >= 0 && right < MOST_RIGHTS) {
+            if (isRight(right)) {
                 unitsLeft[right] = units;
             }
         }
@@ -536,6 +536,9 @@ public final class RightsCounter {
             reach(givers[need], NONE, need);
             for (int next = 0; next < queued && next < MOST_RIGHTS; next++) {
                 int right = queue[next];
+                if (!isRight(right)) {
+                    return NONE;
+                }
                 if (unitsLeft[right] > 0) {
                     return right;
                 }
@@ -562,21 +565,33 @@ public final class RightsCounter {
 
         /** Gives units of the last right that was reached, by the exchanges on the way to it. */
         private int giveAlong(int need, int lastRight, int wanted) {
+            if (!isRight(lastRight)) {
+                return 0;
+            }
             int units = Math.min(wanted, unitsLeft[lastRight]);
             int right = lastRight;
-            for (int hop = 0; hop < MOST_RIGHTS && reachedFrom[right] != NONE; hop++) {
+            for (int hop = 0; hop < MOST_RIGHTS && isExchanged(right); hop++) {
                 units = Math.min(units, given[exchanger[right]][reachedFrom[right]]);
                 right = reachedFrom[right];
             }
             unitsLeft[lastRight] -= units;
             right = lastRight;
-            for (int hop = 0; hop < MOST_RIGHTS && reachedFrom[right] != NONE; hop++) {
+            for (int hop = 0; hop < MOST_RIGHTS && isExchanged(right); hop++) {
                 given[exchanger[right]][right] += units;
                 given[exchanger[right]][reachedFrom[right]] -= units;
                 right = reachedFrom[right];
             }
             given[need][right] += units;
             return units;
+        }
+
+        /** Whether a right was reached from another one; else it was reached from the new need itself. */
+        private boolean isExchanged(int right) {
+            return isRight(reachedFrom[right]) && exchanger[right] >= 0 && exchanger[right] < served;
+        }
+
+        private static boolean isRight(int right) {
+            return right >= 0 && right < MOST_RIGHTS;
         }
     }
 }

@@ -13,7 +13,7 @@ public final class LanguageTest {
         "->", "::", "\\btry\\b", "\\bcatch\\b", "\\bfinally\\b", "\\bsynchronized\\b", "\\bassert\\b",
         "\\bpackage\\b", "\\bprotected\\b", "\\bstatic\\s*\\{", "Exact\\b", "\\bSystem\\.(?!arraycopy)", "\\bThread\\b",
         "\\bString\\.", "\\bvar\\b", "\\bequals\\b", "\\bhashCode\\b", "\\btoString\\b", "\\binstanceof\\b",
-        "\\bwhile \\(true\\)", "\\bfor \\(;;\\)",
+        "\\bwhile \\(true\\)", "\\bfor \\(;;\\)", "\"\"\\s*\\+", "\\+\\s*\"\"", "\\[\\]\\[\\]\\[\\]",
     };
     private static final Set<String> IMPORTS = Set.of("java.util.ArrayList", "java.util.List", "java.util.Arrays");
     private static final int LINES_OF_A_METHOD = 60;
